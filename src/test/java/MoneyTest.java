@@ -20,6 +20,7 @@ public final class MoneyTest {
         bookings();
         bookingsOfDifferences();
         bookingsByFiresThenFarms();
+        mostBookings();
         accountsRefused();
         counts();
         CHECK.end();
@@ -48,6 +49,7 @@ public final class MoneyTest {
         CHECK.due("nothing lost", burning(777, 0, 0).award(0, 0, 0), 0);
         CHECK.due("a coin's part", burning(99, 0, 1).award(0, 0, 0), 0);
         CHECK.due("a coin", burning(100, 0, 1).award(0, 0, 0), 1);
+        CHECK.due("a house of one coin", burning(1, 0, 100).award(0, 0, 0), 1);
     }
 
     private static void awardSumsWhatIsPaid() {
@@ -105,6 +107,9 @@ public final class MoneyTest {
         x.note(0, 8, 0, 0);
         Check.vote(x, "own 1;", 0);
         CHECK.due("and 0.9 of 90, rounded up", x.award(0, 0, 0), 89);
+        x.note(0, 8, 0, 5);
+        CHECK.due("1.01 of 101, rounded up", x.award(0, 0, 0), 99);
+        x.note(0, 8, 0, 0);
         x.note(0, 0, 0, 100);
         CHECK.due("10 of 100, 0.9 of 90", x.award(0, 0, 0), 89);
         Check.vote(x, "own 10;", 0);
@@ -249,7 +254,10 @@ public final class MoneyTest {
         }
         CHECK.due("only farm 2 weighs", x.call(0, 2, 0), 77);
         CHECK.due("farm 0 does not", x.call(0, 0, 0), 0);
-        Check.vote(x, "rate beasts 0;", 0);
+        Check.vote(x, "rate beasts 0; rate hay 1;", 0);
+        x.note(3, 3, 0, 1);
+        CHECK.due("a weight of one coin", x.call(0, 3, 0), 77);
+        x.note(3, 3, 0, 0);
         CHECK.due("none weighs: farm 0", x.call(0, 0, 0), 77);
         for (int i = 1; i < 4; i++) {
             CHECK.due("none weighs: farm " + i, x.call(0, i, 0), 0);
@@ -406,6 +414,31 @@ public final class MoneyTest {
         CHECK.dueCall("account(1)", () -> x.account(1), 0);
         CHECK.dueCall("account(2)", () -> x.account(2), -30);
         CHECK.due("count(6)", x.count(6), 9);
+    }
+
+    private static void mostBookings() {
+        FireMutual x = new FireMutual();
+        for (int i = 0; i < 12; i++) {
+            x.farm(i % 10);
+            x.note(i, 0, 0, 1200);
+        }
+        for (int i = 0; i < 12; i++) {
+            x.fire(i, i);
+            for (int k = 0; k < 3; k++) {
+                x.say(i, k, 0, 100);
+            }
+            x.close(i);
+        }
+        CHECK.due("twelve fires, twelve farms", x.book(), 144);
+        for (int k = 0; k < 144; k++) {
+            booked(x, k, k / 12, k % 12, k / 12 == k % 12 ? 1100 : -100);
+        }
+        CHECK.due("booked(144, 0)", x.booked(144, 0), -1);
+        for (int i = 0; i < 12; i++) {
+            int farm = i;
+            CHECK.dueCall("account(" + farm + ")", () -> x.account(farm), 0);
+        }
+        CHECK.due("count(6)", x.count(6), 144);
     }
 
     private static void accountsRefused() {

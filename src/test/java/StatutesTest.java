@@ -142,6 +142,11 @@ public final class StatutesTest {
         fault("rate own 1;", 1, 5);
         fault("rate hays 1;", 1, 5);
         fault("rate ha 1;", 1, 5);
+        fault("rate bay 1;", 1, 5);
+        fault("rate haz 1;", 1, 5);
+        fault("rate hayz 1;", 1, 5);
+        fault("rate ahay 1;", 1, 5);
+        fault("fate hay 1;", 1, 0);
         fault("rate hay hay;", 1, 9);
         fault("rate 5;", 1, 5);
         fault("none 5;", 1, 5);
