@@ -246,6 +246,8 @@ public final class FireMutual {
         for (int i = 0; i < fireCount; i++) {
             Fire of = fireAt(i);
             if (of != null && of.closed) {
+                reckonParts(of, today);
+                reckonCalls(of, today);
                 bookFire(of);
             }
         }
@@ -409,8 +411,6 @@ public final class FireMutual {
     }
 
     private void bookFire(Fire fire) {
-        reckonParts(fire, today);
-        reckonCalls(fire, today);
         for (int i = 0; i < farmCount; i++) {
             Farm farm = farmAt(i);
             if (farm != null) {
@@ -613,9 +613,18 @@ public final class FireMutual {
             if (next >= end) {
                 kind = END;
             } else if (isSmallLetter(sign)) {
-                passWord();
+                kind = WORD;
+                while (next < end && isSmallLetter(signAt(next))) {
+                    next++;
+                }
             } else if (isDigit(sign)) {
-                passNumber();
+                kind = NUMBER;
+                value = 0;
+                while (next < end && isDigit(signAt(next))) {
+                    // Held at one too many, so that no row of digits comes round to a small number.
+                    value = Math.min(TOO_MUCH, value * 10 + signAt(next) - '0');
+                    next++;
+                }
             } else {
                 kind = sign == ';' || sign == ':' || sign == ',' ? MARK : NO_TOKEN;
                 value = sign;
@@ -637,23 +646,6 @@ public final class FireMutual {
                 }
             }
             return true;
-        }
-
-        private void passWord() {
-            kind = WORD;
-            while (next < end && isSmallLetter(signAt(next))) {
-                next++;
-            }
-        }
-
-        private void passNumber() {
-            kind = NUMBER;
-            value = 0;
-            while (next < end && isDigit(signAt(next))) {
-                // Held at one too many, so that no row of digits comes round to a small number.
-                value = Math.min(TOO_MUCH, value * 10 + signAt(next) - '0');
-                next++;
-            }
         }
 
         private int signAt(int i) {
