@@ -43,12 +43,12 @@ final class Check {
     }
 
     /** Feeds a text (padded with zeros to twenties), votes it, and answers what vote() did. */
-    static int vote(FireMutual x, String text, int from) {
+    static int vote(Face x, String text, int from) {
         feed(x, text);
         return x.vote(text.length(), from);
     }
 
-    static void feed(FireMutual x, String text) {
+    static void feed(Face x, String text) {
         for (int i = 0; i < text.length(); i += 20) {
             x.feed(word(text, i), word(text, i + 4), word(text, i + 8), word(text, i + 12), word(text, i + 16));
         }

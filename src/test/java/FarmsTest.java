@@ -15,7 +15,7 @@ public final class FarmsTest {
     }
 
     private static void passing() {
-        FireMutual x = new FireMutual();
+        Mutual x = new Mutual();
         CHECK.due("pass(0)", x.pass(0), 0);
         CHECK.due("pass(-1)", x.pass(-1), -1);
         CHECK.due("pass(720)", x.pass(720), -1);
@@ -29,12 +29,12 @@ public final class FarmsTest {
         CHECK.due("pass(0)", x.pass(0), 719);
         CHECK.due("pass(1)", x.pass(1), -1);
         CHECK.due("count(0)", x.count(0), 719);
-        FireMutual y = new FireMutual();
+        Mutual y = new Mutual();
         CHECK.due("pass(719)", y.pass(719), 719);
     }
 
     private static void farmsCome() {
-        FireMutual x = new FireMutual();
+        Mutual x = new Mutual();
         CHECK.due("farm(-1)", x.farm(-1), -1);
         CHECK.due("farm(10)", x.farm(10), -1);
         for (int i = 0; i < 12; i++) {
@@ -45,7 +45,7 @@ public final class FarmsTest {
     }
 
     private static void notesAreBounded() {
-        FireMutual x = new FireMutual();
+        Mutual x = new Mutual();
         CHECK.due("no farm", x.note(0, 0, 0, 0), -1);
         x.farm(0);
         CHECK.due("farm 1", x.note(1, 0, 0, 0), -1);
@@ -68,7 +68,7 @@ public final class FarmsTest {
     }
 
     private static void notesUpToTwoHundred() {
-        FireMutual x = new FireMutual();
+        Mutual x = new Mutual();
         x.farm(0);
         x.farm(0);
         for (int i = 1; i <= 200; i++) {
@@ -79,7 +79,7 @@ public final class FarmsTest {
     }
 
     private static void worthOfEachKind() {
-        FireMutual x = new FireMutual();
+        Mutual x = new Mutual();
         x.farm(0);
         x.farm(0);
         for (int what = 0; what < 9; what++) {
@@ -93,7 +93,7 @@ public final class FarmsTest {
     }
 
     private static void worthByDay() {
-        FireMutual x = new FireMutual();
+        Mutual x = new Mutual();
         x.farm(0);
         x.note(0, 0, 100, 1);
         x.note(0, 0, 50, 2);
@@ -109,7 +109,7 @@ public final class FarmsTest {
     }
 
     private static void worthAsKnown() {
-        FireMutual x = new FireMutual();
+        Mutual x = new Mutual();
         x.farm(0);
         x.pass(10);
         x.note(0, 0, 0, 1);
@@ -127,7 +127,7 @@ public final class FarmsTest {
     }
 
     private static void worthRefused() {
-        FireMutual x = new FireMutual();
+        Mutual x = new Mutual();
         CHECK.due("no farm", x.worth(0, 0, 0, 0), -1);
         x.farm(0);
         CHECK.due("farm 1", x.worth(1, 0, 0, 0), -1);

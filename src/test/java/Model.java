@@ -9,7 +9,7 @@ import java.util.regex.Matcher;
 import java.util.regex.Pattern;
 
 /** The document once more, as plainly as the Java library lets one say it, for RandomRunsTest. */
-final class Model {
+final class Model implements Face {
     private record Farm(int kin, int came) { }
 
     private record Note(int farm, int what, int told, int from, int v) { }
@@ -52,20 +52,27 @@ final class Model {
     private int fault;
     private int place = -1;
 
-    int feed(int... words) {
+    @Override
+    public int left() {
+        return Integer.MAX_VALUE;
+    }
+
+    @Override
+    public int feed(int a, int b, int c, int d, int e) {
         if (tape.length() + 20 > 1000) {
             return -1;
         }
-        for (int w : words) {
-            for (byte b : BigInteger.valueOf(w & 0xffffffffL | 1L << 40).toByteArray()) {
-                tape.append((char) (b & 255));
+        for (int w : new int[] {a, b, c, d, e}) {
+            for (byte sign : BigInteger.valueOf(w & 0xffffffffL | 1L << 40).toByteArray()) {
+                tape.append((char) (sign & 255));
             }
             tape.delete(tape.length() - 6, tape.length() - 4);
         }
         return tape.length();
     }
 
-    int vote(int n, int from) {
+    @Override
+    public int vote(int n, int from) {
         if (n < 0 || n > tape.length() || from < 0 || from > 719 || texts.size() == 10) {
             return -2;
         }
@@ -194,11 +201,13 @@ final class Model {
         return new BigInteger(t).intValue();
     }
 
-    int fault(int what) {
+    @Override
+    public int fault(int what) {
         return what == 0 ? fault : what == 1 ? place : -1;
     }
 
-    boolean undo(int text) {
+    @Override
+    public boolean undo(int text) {
         if (text < 0 || text >= texts.size() || texts.get(text).undone <= 719) {
             return false;
         }
@@ -206,14 +215,16 @@ final class Model {
         return true;
     }
 
-    int pass(int days) {
+    @Override
+    public int pass(int days) {
         if (days < 0 || days > 720 || today + days > 719) {
             return -1;
         }
         return today += days;
     }
 
-    int farm(int kin) {
+    @Override
+    public int farm(int kin) {
         if (kin < 0 || kin > 9 || farms.size() == 12) {
             return -1;
         }
@@ -221,7 +232,8 @@ final class Model {
         return farms.size() - 1;
     }
 
-    int note(int farm, int what, int from, int v) {
+    @Override
+    public int note(int farm, int what, int from, int v) {
         if (farm < 0 || farm >= farms.size() || what < 0 || what > 8 || from < 0 || from > 719
             || v < 0 || v > (what == 8 ? 99 : 10000) || notes.size() == 200) {
             return -1;
@@ -230,7 +242,8 @@ final class Model {
         return notes.size();
     }
 
-    int worth(int farm, int what, int day, int known) {
+    @Override
+    public int worth(int farm, int what, int day, int known) {
         if (farm < 0 || farm >= farms.size() || what < 0 || what > 8 || day < 0 || day > 719 || known < 0 || known > today) {
             return -1;
         }
@@ -255,7 +268,8 @@ final class Model {
         return e == null ? null : e.getValue();
     }
 
-    int law(int what, int day, int known) {
+    @Override
+    public int law(int what, int day, int known) {
         if (what < 0 || what > 18 || day < 0 || day > 719 || known < 0 || known > today) {
             return -1;
         }
@@ -279,7 +293,8 @@ final class Model {
         return line == null ? otherwise : line.get(i);
     }
 
-    int fire(int farm, int seed) {
+    @Override
+    public int fire(int farm, int seed) {
         if (farm < 0 || farm >= farms.size() || fires.size() == 12) {
             return -1;
         }
@@ -299,7 +314,8 @@ final class Model {
         return fires.size() - 1;
     }
 
-    int judge(int fire, int k) {
+    @Override
+    public int judge(int fire, int k) {
         if (fire < 0 || fire >= fires.size()) {
             throw new IndexOutOfBoundsException();
         }
@@ -309,7 +325,8 @@ final class Model {
         return fires.get(fire).judges.get(k);
     }
 
-    boolean say(int fire, int k, int kind, int hundredths) {
+    @Override
+    public boolean say(int fire, int k, int kind, int hundredths) {
         if (fire < 0 || fire >= fires.size() || k < 0 || k >= fires.get(fire).judges.size() || kind < 0 || kind > 3
             || hundredths < 0 || hundredths > 100 || closed.contains(fire)) {
             return false;
@@ -318,7 +335,8 @@ final class Model {
         return true;
     }
 
-    boolean close(int fire) {
+    @Override
+    public boolean close(int fire) {
         return fire >= 0 && fire < fires.size() && !closed.contains(fire) && closed.add(fire);
     }
 
@@ -331,7 +349,8 @@ final class Model {
         return all[all.length == 3 ? 1 : 0];
     }
 
-    int look(int fire, int what) {
+    @Override
+    public int look(int fire, int what) {
         if (fire < 0 || fire >= fires.size()) {
             throw new IndexOutOfBoundsException();
         }
@@ -412,15 +431,18 @@ final class Model {
         return fire < 0 || fire >= fires.size() || known < fires.get(fire).day || known > today;
     }
 
-    long award(int fire, int known, int what) {
+    @Override
+    public long award(int fire, int known, int what) {
         return cannotKnow(fire, known) || what < 0 || what > 5 ? -1 : parts(fire, known)[what];
     }
 
-    long call(int fire, int farm, int known) {
+    @Override
+    public long call(int fire, int farm, int known) {
         return cannotKnow(fire, known) || farm < 0 || farm >= farms.size() ? -1 : calls(fire, known)[farm];
     }
 
-    int book() {
+    @Override
+    public int book() {
         page = new ArrayList<>();
         for (int i = 0; i < fires.size(); i++) {
             for (int j = 0; j < farms.size() && closed.contains(i); j++) {
@@ -437,7 +459,8 @@ final class Model {
         return page.size();
     }
 
-    long booked(int k, int what) {
+    @Override
+    public long booked(int k, int what) {
         if (k < 0 || k >= page.size() || what < 0 || what > 2) {
             return -1;
         }
@@ -445,14 +468,16 @@ final class Model {
         return what == 0 ? b.fire : what == 1 ? b.farm : b.much;
     }
 
-    long account(int farm) {
+    @Override
+    public long account(int farm) {
         if (farm < 0 || farm >= farms.size()) {
             throw new NoSuchElementException();
         }
         return fires.stream().mapToLong(f -> f.booked.getOrDefault(farm, 0L)).sum();
     }
 
-    int count(int what) {
+    @Override
+    public int count(int what) {
         int lines = texts.stream().mapToInt(t -> t.lines).sum();
         int[] all = {today, farms.size(), texts.size(), notes.size(), fires.size(), lines, bookings};
         return what < 0 || what > 6 ? -1 : all[what];

@@ -27,8 +27,8 @@ public final class MoneyTest {
     }
 
     /** Farm 0 and one judge, farm 1; the fire on the day on which x is. */
-    private static FireMutual burning(int worth, int elsewhere, int lost) {
-        FireMutual x = new FireMutual();
+    private static Mutual burning(int worth, int elsewhere, int lost) {
+        Mutual x = new Mutual();
         x.farm(0);
         x.farm(1);
         x.note(0, 0, 0, worth);
@@ -53,7 +53,7 @@ public final class MoneyTest {
     }
 
     private static void awardSumsWhatIsPaid() {
-        FireMutual x = new FireMutual();
+        Mutual x = new Mutual();
         x.farm(0);
         x.farm(1);
         x.fire(0, 0);
@@ -74,7 +74,7 @@ public final class MoneyTest {
     }
 
     private static void awardBySeason() {
-        FireMutual x = new FireMutual();
+        Mutual x = new Mutual();
         x.farm(0);
         x.farm(1);
         x.note(0, 3, 0, 333);
@@ -95,7 +95,7 @@ public final class MoneyTest {
     }
 
     private static void awardTakesOffRoundedUp() {
-        FireMutual x = burning(101, 0, 100);
+        Mutual x = burning(101, 0, 100);
         Check.vote(x, "duty 5 less 10;", 0);
         CHECK.due("10.1 of 101, rounded up", x.award(0, 0, 0), 90);
         x.note(0, 8, 0, 4);
@@ -123,7 +123,7 @@ public final class MoneyTest {
     }
 
     private static void awardIsOfTheFiresDay() {
-        FireMutual x = new FireMutual();
+        Mutual x = new Mutual();
         x.farm(0);
         x.farm(1);
         x.note(0, 0, 0, 100);
@@ -138,7 +138,7 @@ public final class MoneyTest {
     }
 
     private static void awardAsKnown() {
-        FireMutual x = burning(1000, 0, 100);
+        Mutual x = burning(1000, 0, 100);
         x.pass(5);
         x.note(0, 0, 0, 2000);
         x.pass(5);
@@ -156,7 +156,7 @@ public final class MoneyTest {
     }
 
     private static void awardRefused() {
-        FireMutual x = new FireMutual();
+        Mutual x = new Mutual();
         CHECK.due("no fire", x.award(0, 0, 0), -1);
         x.farm(0);
         x.pass(3);
@@ -172,14 +172,14 @@ public final class MoneyTest {
         CHECK.due("known 4", x.award(0, 4, 5), 0);
     }
 
-    private static void parts(FireMutual x, int fire, long... due) {
+    private static void parts(Mutual x, int fire, long... due) {
         for (int what = 0; what < due.length; what++) {
             CHECK.due("award(" + fire + ", 0, " + what + ")", x.award(fire, 0, what), due[what]);
         }
     }
 
     private static void partsInTurn() {
-        FireMutual x = new FireMutual();
+        Mutual x = new Mutual();
         x.farm(0);
         x.farm(1);
         x.note(0, 0, 0, 1000);
@@ -203,7 +203,7 @@ public final class MoneyTest {
     }
 
     private static void callsByWeight() {
-        FireMutual x = burning(1000, 0, 100);
+        Mutual x = burning(1000, 0, 100);
         x.note(1, 3, 0, 500);
         Check.vote(x, "rate house 1; rate hay 6;", 0);
         CHECK.due("1000 of 4000", x.call(0, 0, 0), 250);
@@ -220,7 +220,7 @@ public final class MoneyTest {
     }
 
     private static void callsOfLikeCuts() {
-        FireMutual x = new FireMutual();
+        Mutual x = new Mutual();
         for (int i = 0; i < 7; i++) {
             x.farm(i);
             x.note(i, 1, 0, i == 2 ? 0 : 100);
@@ -243,7 +243,7 @@ public final class MoneyTest {
     }
 
     private static void callsWithoutWeight() {
-        FireMutual x = new FireMutual();
+        Mutual x = new Mutual();
         for (int i = 0; i < 4; i++) {
             x.farm(i);
         }
@@ -265,7 +265,7 @@ public final class MoneyTest {
     }
 
     private static void callsOnMembersOnly() {
-        FireMutual x = new FireMutual();
+        Mutual x = new Mutual();
         x.farm(0);
         x.farm(1);
         x.note(0, 0, 0, 100);
@@ -283,7 +283,7 @@ public final class MoneyTest {
     }
 
     private static void callsRefused() {
-        FireMutual x = new FireMutual();
+        Mutual x = new Mutual();
         CHECK.due("no fire", x.call(0, 0, 0), -1);
         x.farm(0);
         x.pass(3);
@@ -299,7 +299,7 @@ public final class MoneyTest {
     }
 
     private static void largestSums() {
-        FireMutual x = new FireMutual();
+        Mutual x = new Mutual();
         for (int i = 0; i < 12; i++) {
             x.farm(i % 10);
             for (int kind = 0; kind < 4; kind++) {
@@ -321,14 +321,14 @@ public final class MoneyTest {
         }
     }
 
-    private static void booked(FireMutual x, int k, long fire, long farm, long much) {
+    private static void booked(Mutual x, int k, long fire, long farm, long much) {
         CHECK.due("booked(" + k + ", 0)", x.booked(k, 0), fire);
         CHECK.due("booked(" + k + ", 1)", x.booked(k, 1), farm);
         CHECK.due("booked(" + k + ", 2)", x.booked(k, 2), much);
     }
 
     private static void bookings() {
-        FireMutual x = burning(300, 0, 100);
+        Mutual x = burning(300, 0, 100);
         CHECK.due("booked before all", x.booked(0, 0), -1);
         x.note(1, 1, 0, 600);
         CHECK.due("an open fire is not booked", x.book(), 0);
@@ -349,7 +349,7 @@ public final class MoneyTest {
     }
 
     private static void bookingsOfDifferences() {
-        FireMutual x = burning(300, 0, 100);
+        Mutual x = burning(300, 0, 100);
         x.farm(2);
         x.note(1, 1, 0, 600);
         x.note(2, 1, 0, 300);
@@ -385,7 +385,7 @@ public final class MoneyTest {
     }
 
     private static void bookingsByFiresThenFarms() {
-        FireMutual x = new FireMutual();
+        Mutual x = new Mutual();
         for (int i = 0; i < 3; i++) {
             x.farm(i);
             x.note(i, 0, 0, 300);
@@ -416,8 +416,8 @@ public final class MoneyTest {
         CHECK.due("count(6)", x.count(6), 9);
     }
 
-    private static void mostBookings() {
-        FireMutual x = new FireMutual();
+    private static Mutual twelveByTwelve() {
+        Mutual x = new Mutual();
         for (int i = 0; i < 12; i++) {
             x.farm(i % 10);
             x.note(i, 0, 0, 1200);
@@ -430,19 +430,28 @@ public final class MoneyTest {
             x.close(i);
         }
         CHECK.due("twelve fires, twelve farms", x.book(), 144);
-        for (int k = 0; k < 144; k++) {
+        return x;
+    }
+
+    private static void mostBookings() {
+        Mutual x = twelveByTwelve();
+        for (int k = 0; k < 72; k++) {
             booked(x, k, k / 12, k % 12, k / 12 == k % 12 ? 1100 : -100);
         }
-        CHECK.due("booked(144, 0)", x.booked(144, 0), -1);
         for (int i = 0; i < 12; i++) {
             int farm = i;
             CHECK.dueCall("account(" + farm + ")", () -> x.account(farm), 0);
         }
         CHECK.due("count(6)", x.count(6), 144);
+        Mutual y = twelveByTwelve();
+        for (int k = 72; k < 144; k++) {
+            booked(y, k, k / 12, k % 12, k / 12 == k % 12 ? 1100 : -100);
+        }
+        CHECK.due("booked(144, 0)", y.booked(144, 0), -1);
     }
 
     private static void accountsRefused() {
-        FireMutual x = new FireMutual();
+        Mutual x = new Mutual();
         CHECK.dueCall("account(0)", () -> x.account(0), Check.NO_SUCH_ELEMENT);
         x.farm(0);
         CHECK.dueCall("account(0)", () -> x.account(0), 0);
@@ -452,7 +461,7 @@ public final class MoneyTest {
     }
 
     private static void counts() {
-        FireMutual x = burning(300, 0, 100);
+        Mutual x = burning(300, 0, 100);
         x.note(1, 1, 0, 600);
         x.pass(4);
         Check.vote(x, "own 0; reserve 0;", 0);

