@@ -939,7 +939,6 @@ public final class FireMutual {
             for (int i = 0; i < MOST_FARMS; i++) {
                 weights[i] = 0;
                 coins[i] = 0;
-                cutOff[i] = 0;
             }
         }
 

@@ -88,6 +88,9 @@ public final class LanguageTest {
             CHECK.due(c.getName() + " has at most twenty fields", fields <= 20, true);
             for (Method m : c.getDeclaredMethods()) {
                 CHECK.due(m + " takes at most seven", m.getParameterCount() <= 7, true);
+                boolean hidden = Modifier.isPrivate(m.getModifiers());
+                boolean face = FACE.stream().anyMatch(f -> f.contains(" " + m.getName() + "("));
+                CHECK.due(m + " bears a public name", hidden && face, false);
             }
         }
     }

@@ -15,6 +15,7 @@ public final class TextEdgesTest {
         numbersAreDigits();
         blanksAreTwo();
         wordsAreSmallLetters();
+        wordsLetterByLetter();
         digitsAreTen();
         marksAreThree();
         twelveNumbersOfASeason();
@@ -256,6 +257,27 @@ public final class TextEdgesTest {
             taken("none " + CLASSES[kind] + ";", 8 + kind, 0);
             fault("none " + CLASSES[kind].substring(1) + ";", 1, 5);
             fault("none " + CLASSES[kind].substring(0, CLASSES[kind].length() - 1) + ";", 1, 5);
+        }
+    }
+
+    /** Each letter of each word matters: another one there, and the word is none, at its first sign. */
+    private static void wordsLetterByLetter() {
+        String[] lines = {
+            "rate house 5;", "rate barn 5;", "rate beasts 5;", "rate hay 5;", "none hay;", "season hay:" + TWELVE + ";",
+            "duty 5 less 5;", "own 5;", "reserve 5;", "other 1 5;"
+        };
+        for (String line : lines) {
+            int start = 0;
+            for (int i = 0; i < line.length(); i++) {
+                char sign = line.charAt(i);
+                if (sign < 'a' || sign > 'z') {
+                    start = i + 1;
+                    continue;
+                }
+                for (char other : new char[] {sign == 'z' ? 'a' : (char) (sign + 1), (char) (sign - 32), (char) (sign + 128)}) {
+                    fault(line.substring(0, i) + other + line.substring(i + 1), 1, start);
+                }
+            }
         }
     }
 
