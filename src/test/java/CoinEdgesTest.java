@@ -13,6 +13,8 @@ public final class CoinEdgesTest {
         ownOfTheRest();
         onTheFiresDay();
         asKnownOnAnother();
+        whatCountsIsOfTheFiresDayAsKnown();
+        whatCountsBesideDuty();
         largestAward();
         reserveAtMost();
         othersInTurn();
@@ -33,18 +35,6 @@ public final class CoinEdgesTest {
         CHECK.end();
     }
 
-    /** Farm 0 burns and farm 1, of another kin, judges. */
-    private static Mutual burning(int worth, int elsewhere, int lost) {
-        Mutual x = new Mutual();
-        x.farm(0);
-        x.farm(1);
-        x.note(0, 0, 0, worth);
-        x.note(0, 4, 0, elsewhere);
-        x.fire(0, 0);
-        x.say(0, 0, 0, lost);
-        return x;
-    }
-
     private static String season(int hundredths) {
         return "season house:" + hundredths + ("," + hundredths).repeat(11) + ";";
     }
@@ -54,22 +44,22 @@ public final class CoinEdgesTest {
     }
 
     private static void seasoned(int worth, int hundredths, int lost, long due) {
-        Mutual x = burning(worth, 0, lost);
+        Mutual x = Scenes.burning(worth, 0, lost);
         Check.vote(x, season(hundredths), 0);
         award(worth + " by " + hundredths + " by " + lost, x, due);
     }
 
     /** "WORTH times season (hundredths) times LOST (hundredths), cut to coins": once, not after each. */
     private static void cutToCoins() {
-        award("99 of one hundredth", burning(99, 0, 1), 0);
-        award("100 of one hundredth", burning(100, 0, 1), 1);
-        award("199 of one hundredth", burning(199, 0, 1), 1);
-        award("200 of one hundredth", burning(200, 0, 1), 2);
-        award("1 of 99", burning(1, 0, 99), 0);
-        award("1 of 100", burning(1, 0, 100), 1);
-        award("10000 of 100", burning(10000, 0, 100), 10000);
-        award("10000 of 0", burning(10000, 0, 0), 0);
-        award("0 of 100", burning(0, 0, 100), 0);
+        award("99 of one hundredth", Scenes.burning(99, 0, 1), 0);
+        award("100 of one hundredth", Scenes.burning(100, 0, 1), 1);
+        award("199 of one hundredth", Scenes.burning(199, 0, 1), 1);
+        award("200 of one hundredth", Scenes.burning(200, 0, 1), 2);
+        award("1 of 99", Scenes.burning(1, 0, 99), 0);
+        award("1 of 100", Scenes.burning(1, 0, 100), 1);
+        award("10000 of 100", Scenes.burning(10000, 0, 100), 10000);
+        award("10000 of 0", Scenes.burning(10000, 0, 0), 0);
+        award("0 of 100", Scenes.burning(0, 0, 100), 0);
         seasoned(10000, 1, 1, 1);
         seasoned(9999, 1, 1, 0);
         seasoned(33, 50, 50, 8);
@@ -85,28 +75,28 @@ public final class CoinEdgesTest {
 
     /** "times WORTH by WORTH and ELSEWHERE, cut". */
     private static void partedByBothBooks() {
-        award("half elsewhere", burning(100, 100, 100), 50);
-        award("cut", burning(101, 101, 100), 50);
-        award("1 by 10001", burning(1, 10000, 100), 0);
-        award("10000 by 10001", burning(10000, 1, 100), 9999);
-        award("both full", burning(10000, 10000, 100), 5000);
-        award("both full, one hundredth", burning(10000, 10000, 1), 50);
-        award("3 by 4", burning(3, 1, 100), 2);
+        award("half elsewhere", Scenes.burning(100, 100, 100), 50);
+        award("cut", Scenes.burning(101, 101, 100), 50);
+        award("1 by 10001", Scenes.burning(1, 10000, 100), 0);
+        award("10000 by 10001", Scenes.burning(10000, 1, 100), 9999);
+        award("both full", Scenes.burning(10000, 10000, 100), 5000);
+        award("both full, one hundredth", Scenes.burning(10000, 10000, 1), 50);
+        award("3 by 4", Scenes.burning(3, 1, 100), 2);
         // 199 by half is cut to 99 first, 99 by 199 / 398 is 49.5 then.
-        award("cut twice", burning(199, 199, 50), 49);
+        award("cut twice", Scenes.burning(199, 199, 50), 49);
         // 150 by 0.67 is 100.5, cut to 100; 100 by 150 / 151 is 99.3; uncut it would be 99.8.
-        award("cut twice", burning(150, 1, 67), 99);
+        award("cut twice", Scenes.burning(150, 1, 67), 99);
         // 101 by 0.99 is 99.99, cut to 99; 99 by 101 / 102 is 98.03; uncut it would be 99.01.
-        award("the first cut shows", burning(101, 1, 99), 98);
+        award("the first cut shows", Scenes.burning(101, 1, 99), 98);
     }
 
     /** "(0 if both are 0)". */
     private static void nothingIfBothAreNothing() {
-        award("both are 0", burning(0, 0, 100), 0);
-        award("WORTH is 0", burning(0, 1, 100), 0);
-        award("WORTH is 0, all elsewhere", burning(0, 10000, 100), 0);
-        award("ELSEWHERE is 0", burning(1, 0, 100), 1);
-        Mutual x = burning(0, 0, 100);
+        award("both are 0", Scenes.burning(0, 0, 100), 0);
+        award("WORTH is 0", Scenes.burning(0, 1, 100), 0);
+        award("WORTH is 0, all elsewhere", Scenes.burning(0, 10000, 100), 0);
+        award("ELSEWHERE is 0", Scenes.burning(1, 0, 100), 1);
+        Mutual x = Scenes.burning(0, 0, 100);
         CHECK.due("close", x.close(0), true);
         CHECK.due("nothing is booked", x.book(), 0);
         x.note(0, 3, 0, 50);
@@ -135,14 +125,14 @@ public final class CoinEdgesTest {
             x.undo(1);
             award("undone", x, 1500);
         }
-        Mutual y = burning(100, 0, 100);
+        Mutual y = Scenes.burning(100, 0, 100);
         Check.vote(y, "none house; none barn; none beasts; none hay;", 0);
         award("none is paid", y, 0);
     }
 
     /** "if the FARM's BUCKETS are below duty's number": below, at, above; 0 is below 1 and not below 0. */
     private static void bucketsBelowDuty() {
-        Mutual x = burning(100, 0, 100);
+        Mutual x = Scenes.burning(100, 0, 100);
         Check.vote(x, "duty 0 less 50;", 0);
         award("0 is not below 0", x, 100);
         Check.vote(x, "duty 1 less 50;", 0);
@@ -167,10 +157,10 @@ public final class CoinEdgesTest {
     }
 
     private static void less(int sum, int hundredths, long due) {
-        Mutual x = burning(sum, 0, 100);
+        Mutual x = Scenes.burning(sum, 0, 100);
         Check.vote(x, "duty 1 less " + hundredths + ";", 0);
         award(sum + " less " + hundredths, x, due);
-        Mutual y = burning(sum, 0, 100);
+        Mutual y = Scenes.burning(sum, 0, 100);
         Check.vote(y, "own " + hundredths + ";", 0);
         award(sum + " own " + hundredths, y, due);
     }
@@ -200,7 +190,7 @@ public final class CoinEdgesTest {
 
     /** "of the rest own's hundredths likewise": of the rest, not of the sum, and rounded by itself. */
     private static void ownOfTheRest() {
-        Mutual x = burning(100, 0, 100);
+        Mutual x = Scenes.burning(100, 0, 100);
         Check.vote(x, "duty 1 less 50; own 50;", 0);
         award("half of the half", x, 25);
         Check.vote(x, "duty 1 less 10; own 10;", 0);
@@ -275,6 +265,74 @@ public final class CoinEdgesTest {
         CHECK.due("beyond it", x.award(0, 720, 0), NONE);
     }
 
+    private static void reckoned(String what, Mutual x, int known, long[] due) {
+        for (int i = 0; i < 8; i++) {
+            long got = i < 6 ? x.award(0, known, i) : x.call(0, i - 6, known);
+            CHECK.due(what + ", as known on " + known + ", number " + i, got, due[i]);
+        }
+    }
+
+    /** Tells a thing on day 20 from the day behind the fire's, and then from the fire's own, which is day 10. */
+    private static void toldLater(String what, String statute, Trace.Step change, Trace.Step changeBehind, long[] base, long[] due) {
+        Mutual x = new Mutual();
+        x.farm(0);
+        x.farm(1);
+        x.note(0, 0, 0, 1000);
+        x.note(1, 1, 0, 1000);
+        x.note(0, 8, 0, 3);
+        Check.vote(x, statute, 0);
+        x.pass(10);
+        x.fire(0, 0);
+        x.say(0, 0, 0, 100);
+        x.pass(10);
+        reckoned("ahead of " + what, x, 20, base);
+        changeBehind.on(x);
+        reckoned(what + " from day 11", x, 20, base);
+        change.on(x);
+        reckoned(what + " from day 10", x, 20, due);
+        reckoned(what + " from day 10", x, 19, base);
+        reckoned(what + " from day 10", x, 10, base);
+        x.pass(1);
+        reckoned(what + " from day 10", x, 21, due);
+    }
+
+    private static void textLater(String statute, String text, long[] base, long... due) {
+        toldLater(text, statute, x -> Check.vote(x, text, 10), x -> Check.vote(x, text, 11), base, due);
+    }
+
+    private static void noteLater(String statute, int farm, int what, int v, long[] base, long... due) {
+        Trace.Step on = x -> x.note(farm, what, 10, v);
+        toldLater("note of " + what, statute, on, x -> x.note(farm, what, 11, v), base, due);
+    }
+
+    /** "on the FIRE's DAY, as KNOWN on another": each thing that an award or a call is reckoned from. */
+    private static void whatCountsIsOfTheFiresDayAsKnown() {
+        long[] base = {1000, 0, 0, 0, 0, 1000, 500, 500};
+        textLater("", "none house;", base, 0, 0, 0, 0, 0, 0, 0, 0);
+        textLater("", season(50), base, 500, 0, 0, 0, 0, 500, 250, 250);
+        textLater("", "duty 4 less 50;", base, 500, 0, 0, 0, 0, 500, 250, 250);
+        textLater("", "own 50;", base, 500, 0, 0, 0, 0, 500, 250, 250);
+        textLater("", "reserve 100;", base, 1000, 100, 0, 0, 0, 900, 450, 450);
+        textLater("", "other 0 100;", base, 1000, 0, 100, 0, 0, 900, 450, 450);
+        textLater("", "other 1 100;", base, 1000, 0, 0, 100, 0, 900, 450, 450);
+        textLater("", "other 2 100;", base, 1000, 0, 0, 0, 100, 900, 450, 450);
+        textLater("", "rate house 3;", base, 1000, 0, 0, 0, 0, 1000, 750, 250);
+        textLater("", "rate barn 3;", base, 1000, 0, 0, 0, 0, 1000, 250, 750);
+        noteLater("", 0, 0, 3000, base, 3000, 0, 0, 0, 0, 3000, 2250, 750);
+        noteLater("", 0, 4, 1000, base, 500, 0, 0, 0, 0, 500, 250, 250);
+        noteLater("", 1, 1, 3000, base, 1000, 0, 0, 0, 0, 1000, 250, 750);
+    }
+
+    /** The same beside a duty that is in force already. */
+    private static void whatCountsBesideDuty() {
+        String duty = "duty 4 less 50;";
+        long[] base = {500, 0, 0, 0, 0, 500, 250, 250};
+        noteLater(duty, 0, 8, 4, base, 1000, 0, 0, 0, 0, 1000, 500, 500);
+        textLater(duty, "duty 3 less 50;", base, 1000, 0, 0, 0, 0, 1000, 500, 500);
+        textLater(duty, "duty 4 less 10;", base, 900, 0, 0, 0, 0, 900, 450, 450);
+        textLater(duty, "duty 1000 less 100;", base, 0, 0, 0, 0, 0, 0, 0, 0);
+    }
+
     private static Mutual largest() {
         Mutual x = new Mutual();
         StringBuilder text = new StringBuilder();
@@ -317,7 +375,7 @@ public final class CoinEdgesTest {
 
     /** "the reserve bears at most its number". */
     private static void reserveAtMost() {
-        Mutual x = burning(100, 0, 100);
+        Mutual x = Scenes.burning(100, 0, 100);
         parts("no reserve", x, 0, 100, 0, 0, 0, 0, 100);
         Check.vote(x, "reserve 1;", 0);
         parts("reserve 1", x, 0, 100, 1, 0, 0, 0, 99);
@@ -365,7 +423,7 @@ public final class CoinEdgesTest {
 
     /** "the rest R is CALLED": nothing, if others bear all. */
     private static void nothingIsCalled() {
-        Mutual x = burning(100, 0, 100);
+        Mutual x = Scenes.burning(100, 0, 100);
         x.note(1, 0, 0, 100);
         Check.vote(x, "reserve 100;", 0);
         CHECK.due("call of 0", x.call(0, 0, 0), 0);
@@ -381,7 +439,7 @@ public final class CoinEdgesTest {
 
     /** "WEIGHT of a FARM that is a member on that DAY: the sum over CLASSES of WORTH times rate". */
     private static void weightsOfMembers() {
-        Mutual x = burning(100, 0, 100);
+        Mutual x = Scenes.burning(100, 0, 100);
         for (int kind = 0; kind < 4; kind++) {
             x.note(1, kind, 0, 100);
         }
@@ -405,7 +463,7 @@ public final class CoinEdgesTest {
 
     /** "a CALL is R times WEIGHT by all WEIGHTS, cut": whole parts leave no coin. */
     private static void callsCut() {
-        Mutual x = burning(99, 0, 100);
+        Mutual x = Scenes.burning(99, 0, 100);
         x.note(1, 1, 0, 1);
         CHECK.due("98.01", x.call(0, 0, 0), 98);
         CHECK.due("0.99 and the coin", x.call(0, 1, 0), 1);
@@ -537,7 +595,7 @@ public final class CoinEdgesTest {
 
     /** "for each FIRE that is CLOSED". */
     private static void closedFiresAreBooked() {
-        Mutual x = burning(100, 0, 100);
+        Mutual x = Scenes.burning(100, 0, 100);
         x.note(1, 0, 0, 100);
         CHECK.due("open", x.book(), 0);
         CHECK.due("nothing", x.account(0), 0);
@@ -555,7 +613,7 @@ public final class CoinEdgesTest {
 
     /** "less what was booked for both": as KNOWN TODAY, up and down and back. */
     private static void onlyDifferencesAreBooked() {
-        Mutual x = burning(100, 0, 100);
+        Mutual x = Scenes.burning(100, 0, 100);
         x.note(1, 0, 0, 100);
         x.close(0);
         x.book();
@@ -582,7 +640,7 @@ public final class CoinEdgesTest {
 
     /** "is booked, if not 0": whose award is their call, and whom nothing is called on, are left out. */
     private static void noughtIsNotBooked() {
-        Mutual x = burning(100, 0, 100);
+        Mutual x = Scenes.burning(100, 0, 100);
         x.farm(2);
         x.close(0);
         CHECK.due("all weight is its own", x.book(), 0);
@@ -604,7 +662,7 @@ public final class CoinEdgesTest {
 
     /** Who was no member on the FIRE's DAY has nothing booked for it. */
     private static void laterFarmsAreNotBooked() {
-        Mutual x = burning(100, 0, 100);
+        Mutual x = Scenes.burning(100, 0, 100);
         x.note(1, 0, 0, 100);
         x.close(0);
         x.pass(1);
@@ -617,7 +675,7 @@ public final class CoinEdgesTest {
 
     /** "Of the k-th of the latest book() (by FIRES, then FARMS)": it stays till the next book(), whatever comes between. */
     private static void bookingsOfTheLatestBook() {
-        Mutual x = burning(100, 0, 100);
+        Mutual x = Scenes.burning(100, 0, 100);
         x.note(1, 0, 0, 100);
         x.fire(1, 0);
         x.say(1, 0, 0, 100);
@@ -664,6 +722,8 @@ public final class CoinEdgesTest {
             x.say(fire, 1, 0, 10 * (fire % 5));
             x.close(fire);
             CHECK.due("book fire " + fire, x.book(), fire % 5 == 0 ? 0 : 3);
+            CHECK.due("the fire's number", x.booked(2, 0), fire % 5 == 0 ? NONE : fire);
+            CHECK.due("the farm's number", x.booked(2, 1), fire % 5 == 0 ? NONE : 2);
             for (int i = 0; i < 3; i++) {
                 due[i] += (i == fire % 3 ? 30 * (fire % 5) : 0) - 10 * (fire % 5);
                 CHECK.due("account of " + i + " behind fire " + fire, x.account(i), due[i]);
@@ -674,7 +734,7 @@ public final class CoinEdgesTest {
 
     /** Asking for awards and calls, as KNOWN on any day, books nothing and changes no booking. */
     private static void questionsDoNotBook() {
-        Mutual x = burning(100, 0, 100);
+        Mutual x = Scenes.burning(100, 0, 100);
         x.note(1, 0, 0, 100);
         x.close(0);
         x.pass(1);

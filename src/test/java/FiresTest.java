@@ -16,14 +16,6 @@ public final class FiresTest {
         CHECK.end();
     }
 
-    private static Mutual withKins(int... kins) {
-        Mutual x = new Mutual();
-        for (int kin : kins) {
-            x.farm(kin);
-        }
-        return x;
-    }
-
     private static void firesBegin() {
         Mutual x = new Mutual();
         CHECK.due("no farm", x.fire(0, 0), -1);
@@ -41,7 +33,7 @@ public final class FiresTest {
     private static void judgesAreDrawn() {
         int[] seeds = {0, 1, 7, -1, 12345, Integer.MAX_VALUE, Integer.MIN_VALUE, 987654321, -55555};
         for (int seed : seeds) {
-            Mutual x = withKins(0, 1, 2, 3, 4, 5, 6, 7, 8, 9, 0, 1);
+            Mutual x = Scenes.withKins(0, 1, 2, 3, 4, 5, 6, 7, 8, 9, 0, 1);
             int fire = x.fire(3, seed);
             java.util.List<Integer> row = new java.util.ArrayList<>();
             for (int i = 0; i < 12; i++) {
@@ -56,7 +48,7 @@ public final class FiresTest {
                 CHECK.dueCall("judge " + k + " of seed " + seed, askJudge(x, fire, k), due);
             }
         }
-        Mutual x = withKins(0, 1, 2, 3, 4, 5, 6, 7, 8, 9, 0, 1);
+        Mutual x = Scenes.withKins(0, 1, 2, 3, 4, 5, 6, 7, 8, 9, 0, 1);
         x.fire(0, 1);
         // x is 1103527590, 2524885223, 662824084: 16838 of 10, 5758 of 9, 10113 of 8 are left.
         CHECK.dueCall("judge 0 of seed 1", askJudge(x, 0, 0), 9);
@@ -69,7 +61,7 @@ public final class FiresTest {
     }
 
     private static void judgesAreNoKin() {
-        Mutual x = withKins(4, 4, 5, 4, 5);
+        Mutual x = Scenes.withKins(4, 4, 5, 4, 5);
         CHECK.due("fire", x.fire(0, 99), 0);
         CHECK.dueCall("two are no kin", () -> x.look(0, 2), 2);
         long first = Check.ask(() -> x.judge(0, 0));
@@ -77,13 +69,13 @@ public final class FiresTest {
         CHECK.due("they are 2 and 4", Math.min(first, second) * 10 + Math.max(first, second), 24);
         CHECK.due("fire", x.fire(2, 99), 1);
         CHECK.dueCall("three are no kin", () -> x.look(1, 2), 3);
-        Mutual y = withKins(4, 4);
+        Mutual y = Scenes.withKins(4, 4);
         y.fire(1, 0);
         CHECK.dueCall("none is no kin", () -> y.look(0, 2), 0);
     }
 
     private static void judgesAreKnownThen() {
-        Mutual x = withKins(0, 1);
+        Mutual x = Scenes.withKins(0, 1);
         x.fire(0, 5);
         x.farm(2);
         x.farm(3);
@@ -94,7 +86,7 @@ public final class FiresTest {
     }
 
     private static void judgesRefused() {
-        Mutual x = withKins(0, 1);
+        Mutual x = Scenes.withKins(0, 1);
         CHECK.dueCall("no fire", () -> x.judge(0, 0), Check.OUT_OF_BOUNDS);
         CHECK.dueCall("no fire, no judge", () -> x.judge(-1, 9), Check.OUT_OF_BOUNDS);
         x.fire(0, 5);
@@ -106,7 +98,7 @@ public final class FiresTest {
     }
 
     private static void saying() {
-        Mutual x = withKins(0, 1, 2);
+        Mutual x = Scenes.withKins(0, 1, 2);
         CHECK.due("no fire", x.say(0, 0, 0, 0), false);
         x.fire(0, 5);
         CHECK.due("fire -1", x.say(-1, 0, 0, 0), false);
@@ -132,7 +124,7 @@ public final class FiresTest {
     private static void lostByThree() {
         int[][] said = {{1, 2, 3}, {1, 3, 2}, {2, 1, 3}, {2, 3, 1}, {3, 1, 2}, {3, 2, 1}, {5, 5, 1}, {5, 1, 5}, {1, 5, 5}};
         int[] due = {2, 2, 2, 2, 2, 2, 5, 5, 5};
-        Mutual x = withKins(0, 1, 2, 3);
+        Mutual x = Scenes.withKins(0, 1, 2, 3);
         x.fire(0, 5);
         x.say(0, 0, 1, 100);
         CHECK.dueCall("one of three has told", () -> x.look(0, 5), 0);
@@ -147,7 +139,7 @@ public final class FiresTest {
     }
 
     private static void lostByTwoAndOne() {
-        Mutual x = withKins(0, 1, 2);
+        Mutual x = Scenes.withKins(0, 1, 2);
         x.fire(0, 5);
         x.say(0, 0, 0, 60);
         CHECK.dueCall("one of two has told", () -> x.look(0, 4), 0);
@@ -155,14 +147,14 @@ public final class FiresTest {
         CHECK.dueCall("the lesser of two", () -> x.look(0, 4), 40);
         x.say(0, 0, 0, 20);
         CHECK.dueCall("the lesser of two", () -> x.look(0, 4), 20);
-        Mutual y = withKins(0, 1);
+        Mutual y = Scenes.withKins(0, 1);
         y.fire(0, 5);
         y.say(0, 0, 0, 60);
         CHECK.dueCall("the one's", () -> y.look(0, 4), 60);
     }
 
     private static void closing() {
-        Mutual x = withKins(0, 1);
+        Mutual x = Scenes.withKins(0, 1);
         CHECK.due("no fire", x.close(0), false);
         x.fire(0, 0);
         x.fire(0, 0);
@@ -176,7 +168,7 @@ public final class FiresTest {
     }
 
     private static void looking() {
-        Mutual x = withKins(0, 1, 2, 3);
+        Mutual x = Scenes.withKins(0, 1, 2, 3);
         CHECK.dueCall("no fire", () -> x.look(0, 0), Check.OUT_OF_BOUNDS);
         CHECK.dueCall("no fire, no what", () -> x.look(-1, 99), Check.OUT_OF_BOUNDS);
         x.pass(41);

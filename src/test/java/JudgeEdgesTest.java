@@ -26,17 +26,9 @@ public final class JudgeEdgesTest {
         CHECK.end();
     }
 
-    private static Mutual withKins(int... kins) {
-        Mutual x = new Mutual();
-        for (int kin : kins) {
-            x.farm(kin);
-        }
-        return x;
-    }
-
     /** "A FIRE (at most 12)": of one farm or of many, closed ones among them. */
     private static void twelveFires() {
-        Mutual x = withKins(0, 1);
+        Mutual x = Scenes.withKins(0, 1);
         for (int i = 0; i < 12; i++) {
             CHECK.due("count(4) ahead", x.count(4), i);
             int fire = i;
@@ -57,7 +49,7 @@ public final class JudgeEdgesTest {
 
     /** "on TODAY": the first day and the last one. */
     private static void firesAreOnToday() {
-        Mutual x = withKins(0, 1);
+        Mutual x = Scenes.withKins(0, 1);
         int[] days = {0, 1, 360, 719};
         for (int i = 0; i < days.length; i++) {
             x.pass(days[i] - x.count(0));
@@ -71,7 +63,7 @@ public final class JudgeEdgesTest {
     /** "JUDGES, three, or as many as can be". */
     private static void threeJudgesOrAsManyAsCanBe() {
         for (int others = 0; others <= 11; others++) {
-            Mutual x = withKins(5);
+            Mutual x = Scenes.withKins(5);
             for (int i = 0; i < others; i++) {
                 x.farm(i % 5);
             }
@@ -95,12 +87,12 @@ public final class JudgeEdgesTest {
             Integer.MIN_VALUE + 1, 1103515245, -1103515245, 12345, -12345, 0x5a5a5a5a
         };
         for (int seed : seeds) {
-            Mutual x = withKins(0, 1, 2, 3, 4, 5, 6, 7, 8, 9, 1, 2);
+            Mutual x = Scenes.withKins(0, 1, 2, 3, 4, 5, 6, 7, 8, 9, 1, 2);
             x.fire(0, seed);
             drawn("seed " + seed, x, 0, seed, 1, 2, 3, 4, 5, 6, 7, 8, 9, 10, 11);
         }
         // Seed 0: x is 12345, 3554416254, 2802067423; by 65536 and 32768: 0, 21468, 9988.
-        Mutual x = withKins(0, 1, 2, 3, 4, 5, 6, 7, 8, 9, 1, 2);
+        Mutual x = Scenes.withKins(0, 1, 2, 3, 4, 5, 6, 7, 8, 9, 1, 2);
         x.fire(0, 0);
         CHECK.due("0 of 11", x.judge(0, 0), 1);
         CHECK.due("21468 of 10, the ninth of those left", x.judge(0, 1), 10);
@@ -131,7 +123,7 @@ public final class JudgeEdgesTest {
     private static void drawnAmongHowManyTheyAre() {
         int[] kins = {1, 2, 3, 4, 5, 6, 7, 8, 9, 1, 2};
         for (int many = 1; many <= 11; many++) {
-            Mutual x = withKins(0);
+            Mutual x = Scenes.withKins(0);
             int[] row = new int[many];
             for (int i = 0; i < many; i++) {
                 row[i] = x.farm(kins[i]);
@@ -147,23 +139,23 @@ public final class JudgeEdgesTest {
     /** "not of its KIN": the farm itself and all of its kin are left out, the others keep their order. */
     private static void noKinJudges() {
         for (int seed = -20; seed < 20; seed++) {
-            Mutual x = withKins(3, 0, 3, 1, 3, 2, 0, 3);
+            Mutual x = Scenes.withKins(3, 0, 3, 1, 3, 2, 0, 3);
             x.fire(2, seed);
             drawn("kin 3, seed " + seed, x, 0, seed, 1, 3, 5, 6);
             x.fire(1, seed);
             drawn("kin 0, seed " + seed, x, 1, seed, 0, 2, 3, 4, 5, 7);
         }
-        Mutual y = withKins(9, 9, 9, 9, 9, 9, 9, 9, 9, 9, 9, 9);
+        Mutual y = Scenes.withKins(9, 9, 9, 9, 9, 9, 9, 9, 9, 9, 9, 9);
         y.fire(11, 5);
         CHECK.due("all are kin", y.look(0, 2), 0);
-        Mutual z = withKins(9);
+        Mutual z = Scenes.withKins(9);
         z.fire(0, 5);
         CHECK.due("alone", z.look(0, 2), 0);
     }
 
     /** "not judges yet", of this fire; of another they may be. */
     private static void noJudgeTwice() {
-        Mutual x = withKins(0, 1, 1, 1);
+        Mutual x = Scenes.withKins(0, 1, 1, 1);
         for (int fire = 0; fire < 12; fire++) {
             x.fire(0, fire * 31 - 100);
             int a = x.judge(fire, 0);
@@ -176,7 +168,7 @@ public final class JudgeEdgesTest {
 
     /** "of FARMS that are members that DAY (KNOWN then)". */
     private static void membersOfThatDayJudge() {
-        Mutual x = withKins(0, 1);
+        Mutual x = Scenes.withKins(0, 1);
         x.pass(5);
         x.farm(2);
         x.fire(0, 9);
@@ -193,7 +185,7 @@ public final class JudgeEdgesTest {
 
     /** "the hundredths lost (0 .. 100; ..)". */
     private static void hundredthsOfEachEnd() {
-        Mutual x = withKins(0, 1);
+        Mutual x = Scenes.withKins(0, 1);
         x.fire(0, 0);
         for (int kind = 0; kind < 4; kind++) {
             CHECK.due("100", x.say(0, 0, kind, 100), true);
@@ -215,7 +207,7 @@ public final class JudgeEdgesTest {
 
     /** "0 till told": by each judge, of each class. */
     private static void nothingTillTold() {
-        Mutual x = withKins(0, 1, 2, 3);
+        Mutual x = Scenes.withKins(0, 1, 2, 3);
         x.fire(0, 0);
         for (int kind = 0; kind < 4; kind++) {
             CHECK.due("none has told", x.look(0, 4 + kind), 0);
@@ -230,7 +222,7 @@ public final class JudgeEdgesTest {
 
     /** "with no JUDGE all is 0". */
     private static void noJudgeNoLoss() {
-        Mutual x = withKins(4, 4);
+        Mutual x = Scenes.withKins(4, 4);
         x.note(0, 0, 0, 10000);
         x.note(1, 0, 0, 10000);
         x.fire(0, 0);
@@ -254,7 +246,7 @@ public final class JudgeEdgesTest {
     private static void theMiddleOfThree() {
         int[] values = {0, 1, 50, 99, 100};
         for (int a : values) {
-            Mutual x = withKins(0, 1, 2, 3);
+            Mutual x = Scenes.withKins(0, 1, 2, 3);
             x.fire(0, 0);
             for (int b : values) {
                 for (int c : values) {
@@ -272,7 +264,7 @@ public final class JudgeEdgesTest {
     /** "the lesser of two". */
     private static void theLesserOfTwo() {
         int[] values = {0, 1, 50, 99, 100};
-        Mutual x = withKins(0, 1, 2, 0);
+        Mutual x = Scenes.withKins(0, 1, 2, 0);
         x.fire(3, 0);
         CHECK.due("two judge", x.look(0, 2), 2);
         for (int a : values) {
@@ -286,7 +278,7 @@ public final class JudgeEdgesTest {
 
     /** "the one's". */
     private static void theOnes() {
-        Mutual x = withKins(0, 1, 0);
+        Mutual x = Scenes.withKins(0, 1, 0);
         x.fire(2, 0);
         CHECK.due("one judges", x.look(0, 2), 1);
         for (int a : new int[] {100, 0, 1, 99}) {
@@ -297,7 +289,7 @@ public final class JudgeEdgesTest {
 
     /** "CLOSED (its JUDGES tell no more)". */
     private static void closedFiresHearNoMore() {
-        Mutual x = withKins(0, 1, 2, 3);
+        Mutual x = Scenes.withKins(0, 1, 2, 3);
         x.note(0, 0, 0, 100);
         x.fire(0, 0);
         x.fire(0, 0);
@@ -323,7 +315,7 @@ public final class JudgeEdgesTest {
 
     /** What is said is of that fire, judge and class alone. */
     private static void whatIsSaidIsOfThatFire() {
-        Mutual x = withKins(0, 1);
+        Mutual x = Scenes.withKins(0, 1);
         for (int fire = 0; fire < 12; fire++) {
             x.fire(0, fire);
         }

@@ -26,30 +26,18 @@ public final class MoneyTest {
         CHECK.end();
     }
 
-    /** Farm 0 and one judge, farm 1; the fire on the day on which x is. */
-    private static Mutual burning(int worth, int elsewhere, int lost) {
-        Mutual x = new Mutual();
-        x.farm(0);
-        x.farm(1);
-        x.note(0, 0, 0, worth);
-        x.note(0, 4, 0, elsewhere);
-        x.fire(0, 0);
-        x.say(0, 0, 0, lost);
-        return x;
-    }
-
     private static void awardIsCutTwice() {
         // 199 * 0.5 is 99.5, cut 99; 99 * 199 / 200 is 98.505.
-        CHECK.due("199 and 1, half lost", burning(199, 1, 50).award(0, 0, 0), 98);
+        CHECK.due("199 and 1, half lost", Scenes.burning(199, 1, 50).award(0, 0, 0), 98);
         // 101 * 0.99 is 99.99, cut 99; 99 * 101 / 102 is 98.03. Uncut it would be 99.009.
-        CHECK.due("101 and 1, 99 lost", burning(101, 1, 99).award(0, 0, 0), 98);
-        CHECK.due("nothing elsewhere", burning(777, 0, 100).award(0, 0, 0), 777);
-        CHECK.due("nothing at all", burning(0, 0, 100).award(0, 0, 0), 0);
-        CHECK.due("only elsewhere", burning(0, 500, 100).award(0, 0, 0), 0);
-        CHECK.due("nothing lost", burning(777, 0, 0).award(0, 0, 0), 0);
-        CHECK.due("a coin's part", burning(99, 0, 1).award(0, 0, 0), 0);
-        CHECK.due("a coin", burning(100, 0, 1).award(0, 0, 0), 1);
-        CHECK.due("a house of one coin", burning(1, 0, 100).award(0, 0, 0), 1);
+        CHECK.due("101 and 1, 99 lost", Scenes.burning(101, 1, 99).award(0, 0, 0), 98);
+        CHECK.due("nothing elsewhere", Scenes.burning(777, 0, 100).award(0, 0, 0), 777);
+        CHECK.due("nothing at all", Scenes.burning(0, 0, 100).award(0, 0, 0), 0);
+        CHECK.due("only elsewhere", Scenes.burning(0, 500, 100).award(0, 0, 0), 0);
+        CHECK.due("nothing lost", Scenes.burning(777, 0, 0).award(0, 0, 0), 0);
+        CHECK.due("a coin's part", Scenes.burning(99, 0, 1).award(0, 0, 0), 0);
+        CHECK.due("a coin", Scenes.burning(100, 0, 1).award(0, 0, 0), 1);
+        CHECK.due("a house of one coin", Scenes.burning(1, 0, 100).award(0, 0, 0), 1);
     }
 
     private static void awardSumsWhatIsPaid() {
@@ -95,7 +83,7 @@ public final class MoneyTest {
     }
 
     private static void awardTakesOffRoundedUp() {
-        Mutual x = burning(101, 0, 100);
+        Mutual x = Scenes.burning(101, 0, 100);
         Check.vote(x, "duty 5 less 10;", 0);
         CHECK.due("10.1 of 101, rounded up", x.award(0, 0, 0), 90);
         x.note(0, 8, 0, 4);
@@ -138,7 +126,7 @@ public final class MoneyTest {
     }
 
     private static void awardAsKnown() {
-        Mutual x = burning(1000, 0, 100);
+        Mutual x = Scenes.burning(1000, 0, 100);
         x.pass(5);
         x.note(0, 0, 0, 2000);
         x.pass(5);
@@ -203,7 +191,7 @@ public final class MoneyTest {
     }
 
     private static void callsByWeight() {
-        Mutual x = burning(1000, 0, 100);
+        Mutual x = Scenes.burning(1000, 0, 100);
         x.note(1, 3, 0, 500);
         Check.vote(x, "rate house 1; rate hay 6;", 0);
         CHECK.due("1000 of 4000", x.call(0, 0, 0), 250);
@@ -328,7 +316,7 @@ public final class MoneyTest {
     }
 
     private static void bookings() {
-        Mutual x = burning(300, 0, 100);
+        Mutual x = Scenes.burning(300, 0, 100);
         CHECK.due("booked before all", x.booked(0, 0), -1);
         x.note(1, 1, 0, 600);
         CHECK.due("an open fire is not booked", x.book(), 0);
@@ -349,7 +337,7 @@ public final class MoneyTest {
     }
 
     private static void bookingsOfDifferences() {
-        Mutual x = burning(300, 0, 100);
+        Mutual x = Scenes.burning(300, 0, 100);
         x.farm(2);
         x.note(1, 1, 0, 600);
         x.note(2, 1, 0, 300);
@@ -461,7 +449,7 @@ public final class MoneyTest {
     }
 
     private static void counts() {
-        Mutual x = burning(300, 0, 100);
+        Mutual x = Scenes.burning(300, 0, 100);
         x.note(1, 1, 0, 600);
         x.pass(4);
         Check.vote(x, "own 0; reserve 0;", 0);

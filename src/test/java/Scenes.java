@@ -100,6 +100,24 @@ final class Scenes {
     private Scenes() {
     }
 
+    static Mutual withKins(int... kins) {
+        Mutual x = new Mutual();
+        for (int kin : kins) {
+            x.farm(kin);
+        }
+        return x;
+    }
+
+    /** The house of farm 0 burns, and farm 1, of another kin, judges. */
+    static Mutual burning(int worth, int elsewhere, int lost) {
+        Mutual x = withKins(0, 1);
+        x.note(0, 0, 0, worth);
+        x.note(0, 4, 0, elsewhere);
+        x.fire(0, 0);
+        x.say(0, 0, 0, lost);
+        return x;
+    }
+
     private static void firstDay(Face x) {
         x.farm(0);
         x.farm(1);

@@ -20,6 +20,7 @@ public final class TextEdgesTest {
         marksAreThree();
         twelveNumbersOfASeason();
         faultsAtTheEnds();
+        linesWithoutAClass();
         theFirstFaultAlongTheText();
         faultsWithinALineComeFirst();
         keysStandOnce();
@@ -316,6 +317,13 @@ public final class TextEdgesTest {
         fault(":", 1, 0);
         fault("other 1,5;", 1, 7);
         fault("duty 5,less 5;", 1, 6);
+        // 59, 58 and 44 are the marks' own numbers: a number that is one is no mark, nor is what follows it.
+        fault("own 5 59", 1, 6);
+        fault("own 59", 1, 6);
+        fault("own 59 own 6;", 1, 7);
+        fault("season hay 58 " + TWELVE + ";", 1, 11);
+        fault("season hay:44 44 1;", 1, 14);
+        fault("season hay:44 x 1;", 1, 14);
     }
 
     /** "season: 12 numbers"; "a thirteenth of a season" (at it). */
@@ -364,6 +372,18 @@ public final class TextEdgesTest {
                 }
             }
         }
+    }
+
+    /** Where a CLASS must come, nothing else can stand, though all behind it be sound. */
+    private static void linesWithoutAClass() {
+        fault("rate 5;", 1, 5);
+        fault("rate ;", 1, 5);
+        fault("rate rate 5;", 1, 5);
+        fault("none;", 1, 4);
+        fault("none 5;", 1, 5);
+        fault("none none;", 1, 5);
+        fault("season : " + TWELVE + ";", 1, 7);
+        fault("season 5: " + TWELVE + ";", 1, 7);
     }
 
     /** "FAULTS, the first along the text". */
