@@ -552,6 +552,7 @@ public final class CoinEdgesTest {
         y.farm(2);
         y.note(2, 3, 0, 100);
         CHECK.due("who came later weighs nothing", y.call(0, 2, 4), 0);
+        CHECK.due("nor as known ahead of its coming: there is such a farm today", y.call(0, 2, 3), 0);
         CHECK.due("farm 0 judged, and bears it", y.call(0, 0, 4), 50);
         CHECK.due("not the farm itself", y.call(0, 1, 4), 0);
         y.close(0);

@@ -403,6 +403,21 @@ public final class TextEdgesTest {
         fault("season pig: 1001;", 1, 7);
         fault("season hay: 1,1001,x", 2, 14);
         fault("own 5; rate hay 1001; none pig;", 2, 16);
+        numbersWhereNoneCanStand();
+    }
+
+    /** "an N above 1000": digits where no N can stand are none, however high. */
+    private static void numbersWhereNoneCanStand() {
+        fault("1001;", 1, 0);
+        fault("rate 1001 5;", 1, 5);
+        fault("season 1001: " + TWELVE + ";", 1, 7);
+        fault("season hay 1001;", 1, 11);
+        fault("duty 5 1001;", 1, 7);
+        fault("none hay 1001;", 1, 9);
+        fault("own 5 1001;", 1, 6);
+        fault("own 5; 1001", 1, 7);
+        fault("other 1 5 1001;", 1, 10);
+        fault("season hay: " + TWELVE + " 1001;", 1, 13 + TWELVE.length());
     }
 
     /** "3 a LINE of a KEY that the text has (at its first TOKEN, behind what is wrong within it)". */
